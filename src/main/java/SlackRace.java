@@ -1117,9 +1117,9 @@ public final class SlackRace {
         private final int[] winds = new int[HOURS];
         private final long[] takenByNumber = new long[MOST_TURBINES + 1];
         final int[] today = new int[MINUTES];
-        final int[] calm = new int[MINUTES];
-        final int[] driven = new int[MINUTES];
-        /** The latest DRAWN DAY's FLOW; null ahead of any. */
+        /** Rows that few objects are asked for: null until then. The third is of the latest DAY. */
+        int[] calm = null;
+        int[] driven = null;
         int[] drawnDay = null;
         boolean tidesFresh = false;
         private boolean todayFresh = false;
@@ -1146,7 +1146,9 @@ public final class SlackRace {
             }
             for (int end = 0; end < 2; end++) {
                 int from = end * MINUTES;
-                Arrays.fill(tides, from, from + MINUTES, state.seas[end * SEA_SORTS + MEAN]);
+                for (int minute = 0; minute < MINUTES; minute++) {
+                    tides[from + minute] = state.seas[end * SEA_SORTS + MEAN];
+                }
                 for (int moon = 0; moon < MOONS; moon++) {
                     addMoon(from, moonPlace(end, moon));
                 }
@@ -1187,6 +1189,7 @@ public final class SlackRace {
         void freshenCalm() {
             if (!calmFresh) {
                 Arrays.fill(winds, 0);
+                calm = made(calm);
                 run(calm, PLAIN_GLASS, 0);
                 calmFresh = true;
             }
@@ -1196,6 +1199,7 @@ public final class SlackRace {
         void drive(int n) {
             if (drivenBy != n) {
                 Arrays.fill(winds, state.terms[WIND]);
+                driven = made(driven);
                 run(driven, state.terms[GLASS], n);
                 drivenBy = n;
                 takenByNumber[n] = takenFromDriven(n);
@@ -1217,10 +1221,12 @@ public final class SlackRace {
                 s = (s * 1103 + 12345) % 1000003;
                 winds[hour] = s % 41 - 20;
             }
-            if (drawnDay == null) {
-                drawnDay = new int[MINUTES];
-            }
+            drawnDay = made(drawnDay);
             run(drawnDay, state.terms[GLASS], 0);
+        }
+
+        private static int[] made(int[] row) {
+            return row != null ? row : new int[MINUTES];
         }
 
         /** The FLOW of a day with the winds that are set. */
@@ -1384,7 +1390,7 @@ public final class SlackRace {
         private final long[] ofKind = new long[KINDS];
         /** The CELLS where the surveyed BOAT can be at each STEP. */
         private final long[] open = new long[STEPS];
-        /** The CELLS from which it can stay or change rows, go to the next column, to that ahead. */
+        /** Those from which it can stay or change rows, go to the next column, to that ahead. */
         private final long[] holds = new long[STEPS];
         private final long[] runsOn = new long[STEPS];
         private final long[] runsBack = new long[STEPS];
@@ -1651,7 +1657,7 @@ public final class SlackRace {
                 findBegins(ship);
             }
             leastWait = NONE;
-            tryFrom(0, 0, 0, 0);
+            lineUp(0, 0, 0, 0);
             fresh = true;
         }
 
@@ -1667,8 +1673,8 @@ public final class SlackRace {
             }
         }
 
-        /** Tries all ORDERS of the SHIPS that are not used, lower ones ahead. */
-        private void tryFrom(int place, int used, int minute, int waited) {
+        /** Tries all ORDERS of the SHIPS that are not used yet, lower ones ahead. */
+        private void lineUp(int place, int used, int minute, int waited) {
             if (place >= state.shipCount) {
                 leastWait = waited;
                 System.arraycopy(tried, 0, bestOrder, 0, SHIP_ROOM);
@@ -1688,7 +1694,7 @@ public final class SlackRace {
                 }
                 tried[place] = ship;
                 triedBegins[ship] = begin;
-                tryFrom(place + 1, used | 1 << ship, begin + state.passes[ship], wait);
+                lineUp(place + 1, used | 1 << ship, begin + state.passes[ship], wait);
             }
         }
     }

@@ -7,7 +7,7 @@ final class Due {
         asked++;
         if (got != want) {
             wrong++;
-            if (wrong <= 40) {
+            if (wrong <= 100) {
                 System.out.println(what + " answered " + got + ", due is " + want);
             }
         }
