@@ -843,7 +843,7 @@ public final class SlackRace {
             parts = 0;
             tokenTo = 0;
             fault = NONE;
-            step();
+            advance();
             for (int k = 0; k < MOST_CLAUSES; k++) {
                 if (!readClause()) {
                     return null;
@@ -855,7 +855,7 @@ public final class SlackRace {
                     fail();
                     return null;
                 }
-                step();
+                advance();
             }
             fail();
             return null;
@@ -866,14 +866,14 @@ public final class SlackRace {
             if (!gains && !isWord("white")) {
                 return fail();
             }
-            step();
+            advance();
             int from = size;
             if (!readSum(0)) {
                 return false;
             }
             int sumEnd = size;
             if (isWord("if")) {
-                step();
+                advance();
                 if (!readTest(0)) {
                     return false;
                 }
@@ -896,7 +896,7 @@ public final class SlackRace {
             for (int k = 0; k < TAPE_ROOM && isWord("or"); k++) {
                 int jump = size;
                 put(Teller.OR, 0);
-                step();
+                advance();
                 if (!readBoth(depth)) {
                     return false;
                 }
@@ -912,7 +912,7 @@ public final class SlackRace {
             for (int k = 0; k < TAPE_ROOM && isWord("and"); k++) {
                 int jump = size;
                 put(Teller.AND, 0);
-                step();
+                advance();
                 if (!readPlain(depth)) {
                     return false;
                 }
@@ -926,10 +926,25 @@ public final class SlackRace {
             // a row of "not" may be longer than calls may stand open
             for (int k = 0; k < TAPE_ROOM && isWord("not"); k++) {
                 turned = !turned;
-                step();
+                advance();
             }
-            if (!(isOther('(') ? readBracketed(depth) : readComparison(depth))) {
-                return false;
+            if (isOther('(')) {
+                if (!readBracketed(depth)) {
+                    return false;
+                }
+            } else {
+                if (!readSum(depth)) {
+                    return false;
+                }
+                int sign = comparisonHere();
+                if (sign == NONE) {
+                    return fail();
+                }
+                advance();
+                if (!readSum(depth)) {
+                    return false;
+                }
+                put(sign, 0);
             }
             if (turned) {
                 put(Teller.NOT, 0);
@@ -941,27 +956,15 @@ public final class SlackRace {
             if (depth >= MOST_BRACKETS) {
                 return fail();
             }
-            step();
-            if (!readTest(depth + 1)) {
-                return false;
-            }
-            return takes(')');
+            advance();
+            return readTest(depth + 1) && takes(')');
         }
 
-        private boolean readComparison(int depth) {
-            if (!readSum(depth)) {
-                return false;
-            }
-            int sign = isOther('<') ? Teller.BELOW : isOther('>') ? Teller.ABOVE : Teller.ALIKE;
-            if (sign == Teller.ALIKE && !isOther('=')) {
-                return fail();
-            }
-            step();
-            if (!readSum(depth)) {
-                return false;
-            }
-            put(sign, 0);
-            return true;
+        private int comparisonHere() {
+            return isOther('<') ? Teller.BELOW
+                    : isOther('>') ? Teller.ABOVE
+                    : isOther('=') ? Teller.ALIKE
+                    : NONE;
         }
 
         private boolean readSum(int depth) {
@@ -970,7 +973,7 @@ public final class SlackRace {
             }
             for (int k = 0; k < TAPE_ROOM && (isOther('+') || isOther('-')); k++) {
                 int sign = isOther('+') ? Teller.PLUS : Teller.MINUS;
-                step();
+                advance();
                 if (!readTerm(depth)) {
                     return false;
                 }
@@ -985,7 +988,7 @@ public final class SlackRace {
             }
             for (int k = 0; k < TAPE_ROOM && (isOther('*') || isOther('/')); k++) {
                 int sign = isOther('*') ? Teller.TIMES : Teller.OVER;
-                step();
+                advance();
                 if (!readPart(depth)) {
                     return false;
                 }
@@ -999,11 +1002,8 @@ public final class SlackRace {
                 if (depth >= MOST_BRACKETS) {
                     return fail();
                 }
-                step();
-                if (!readSum(depth + 1)) {
-                    return false;
-                }
-                return takes(']');
+                advance();
+                return readSum(depth + 1) && takes(']');
             }
             int sign = tokenSort == DIGITS ? Teller.NUMBER : Teller.WORD;
             int with = tokenSort == DIGITS ? numberHere() : wordHere();
@@ -1012,7 +1012,7 @@ public final class SlackRace {
             }
             parts++;
             put(sign, with);
-            step();
+            advance();
             return true;
         }
 
@@ -1020,7 +1020,7 @@ public final class SlackRace {
             if (!isOther(closing)) {
                 return fail();
             }
-            step();
+            advance();
             return true;
         }
 
@@ -1081,7 +1081,7 @@ public final class SlackRace {
         }
 
         /** Goes on to the next TOKEN. */
-        private void step() {
+        private void advance() {
             int at = tokenTo;
             while (at < tape.length && tape.bytes[at] == BLANK) {
                 at++;

@@ -438,7 +438,12 @@ public final class PromisesTest {
         is("12 end", x.level(-1, 0), NOTHING);
         is("12 minute", x.level(0, 1440), NOTHING);
         is("12 minute", x.level(0, -1), NOTHING);
-        is("12 last minute", x.level(0, 1439) == NOTHING ? 1 : 0, 0);
+        SlackRace y = new SlackRace();
+        y.moon(0, 0, 0, 500);
+        // 719 of 720: x is 3994, 1994 * 6 / 1000 is 11; 500 * 11 / 1000 is 5
+        is("12 cut each time", y.level(0, 719), -5);
+        is("12 last minute", y.level(0, 1439), -5);
+        is("12 turn", y.level(0, 720), 0);
     }
 
     private static void flows() {
@@ -681,6 +686,15 @@ public final class PromisesTest {
         // 2 can be left against the flow from STEP 11 on
         is("19 out of it, when it is over", y.soonest(0, 3, 3, 1), 12);
         is("19 waits where it can, for the end of it", y.soonest(0, 11, 9, 1), 19);
+
+        SlackRace z = stillSea();
+        z.terms(4, -151);
+        z.boat(150, 8);
+        is("19 towards END 0 it runs off, too", z.soonest(0, 0, 25, 35), NONE);
+        is("19 and can't be stemmed", z.soonest(0, 0, 25, 26), NONE);
+        is("19 but one goes with it", z.soonest(0, 0, 25, 20), 5);
+        z.terms(4, -150);
+        is("19 just", z.soonest(0, 0, 25, 35), 1);
     }
 
     private static void firstWays() {
@@ -973,6 +987,10 @@ public final class PromisesTest {
         is("31 best", y.most(0, 0) >= 1 ? 1 : 0, 1);
         int best = y.most(0, 0);
         is("31 slowed", y.most(1, 1), 200 + (800 - 40000 * (10 + 2 * best) / 1000) / 40);
+        y.terms(7, 20);
+        best = y.most(0, 0);
+        is("31 slowed by DRAG", y.most(1, 1), 200 + (800 - 40000 * (10 + 20 * best) / 1000) / 40);
+        is("31 some are best", best > 0 ? 1 : 0, 1);
         long greatest = -1;
         int lowest = -1;
         for (int n = 0; n <= 20; n++) {
@@ -1340,6 +1358,18 @@ public final class PromisesTest {
         is("40 kept", x.image(0), 0);
         Due.type(x, "abc");
         int bad = x.count(6);
+        is("41 ahead of it", x.flow(10), 20);
+        is("41 ahead of it", x.level(0, 0), 20);
+        is("41 ahead of it", x.order(NONE), NONE);
+        int agreed = x.agree(0, 0);
+        x.tear();
+        x.move(1);
+        is("41 back", x.back(1), 0);
+        is("41 level", x.level(0, 0), 10);
+        is("41 one float agrees with more than two", x.agree(0, 0) > agreed ? 1 : 0, 1);
+        x.boat(100, 99);
+        // the plan is 3, the next row: there is none below 40
+        is("41 the moves themselves", x.done(1, 0, 45, 0), 0);
         is("41 back", x.back(1), 0);
         is("41 counts", x.count(0) * 10000 + x.count(1) * 1000 + x.count(2) * 100 + x.count(3) * 10
                 + x.count(4), 11111);
