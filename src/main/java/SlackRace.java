@@ -238,6 +238,9 @@ public final class SlackRace {
     }
 
     public int slack(int i, int what) {
+        if (!isWithin(what, 0, 3)) {
+            return NOTHING;
+        }
         water.freshenToday();
         if (i == NONE) {
             return water.slacksOf(water.today);
@@ -253,10 +256,8 @@ public final class SlackRace {
                 return water.slackLength(water.today, first);
             case 2:
                 return water.levelToday(0, first) - water.levelToday(1, first);
-            case 3:
-                return water.sinceGreatest(first);
             default:
-                return NOTHING;
+                return water.sinceGreatest(first);
         }
     }
 

@@ -527,11 +527,14 @@ final class PlainModel {
     }
 
     int slack(int i, int what) {
+        if (!in(what, 0, 3)) {
+            return NOTHING;
+        }
         List<int[]> rows = slacks(today());
         if (i == NONE) {
             return rows.size();
         }
-        if (!in(i, 0, rows.size() - 1) || !in(what, 0, 3)) {
+        if (!in(i, 0, rows.size() - 1)) {
             return NOTHING;
         }
         int first = rows.get(i)[0];

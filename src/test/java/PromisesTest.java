@@ -566,6 +566,11 @@ public final class PromisesTest {
         is("16 below", x.slack(-2, 0), NOTHING);
         is("16 what", x.slack(0, 4), NOTHING);
         is("16 what", x.slack(0, -1), NOTHING);
+        is("16 how many, by each what", x.slack(NONE, 3), 2);
+        is("16 how many, no such what", x.slack(NONE, 4), NOTHING);
+        is("16 how many, no such what", x.slack(NONE, -1), NOTHING);
+        is("16 how many, no such what", x.slack(NONE, Integer.MAX_VALUE), NOTHING);
+        is("16 how many, no such what", x.slack(NONE, Integer.MIN_VALUE), NOTHING);
         x.terms(3, 0);
         is("16 one minute", x.slack(1, 1), 1);
         is("16 one minute", x.slack(1, 0), 790);
