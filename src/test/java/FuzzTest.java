@@ -6,6 +6,8 @@ import java.util.Random;
 public final class FuzzTest {
     private static final int[] WILD = {-1, -2, 6, 50, 51, 52, 143, 144, 1439, 1440, -100000, 99999,
         Integer.MAX_VALUE, Integer.MIN_VALUE, 0, 1, 1000000, 1000001};
+    /** Each with a status() behind it, and some more for the last of them: 512 in all. */
+    private static final int MOST_CALLS = 220;
     private static final String[] WORDS = {"fall", "flow", "minute", "wind", "glass", "kind",
         "turbines"};
 
@@ -21,7 +23,7 @@ public final class FuzzTest {
     }
 
     public static void main(String[] args) {
-        int runs = args.length > 1 ? Integer.parseInt(args[1]) : 160;
+        int runs = args.length > 1 ? Integer.parseInt(args[1]) : 400;
         int first = args.length > 2 ? Integer.parseInt(args[2]) : 0;
         Due due = new Due();
         for (int seed = first; seed < first + runs && due.allRight(); seed++) {
@@ -36,7 +38,7 @@ public final class FuzzTest {
 
     private void play(int length) {
         start();
-        for (int i = 0; i < length && due.allRight(); i++) {
+        for (int i = 0; i < length && due.allRight() && calls.size() < MOST_CALLS; i++) {
             if (random.nextInt(3) == 0) {
                 change();
             } else {

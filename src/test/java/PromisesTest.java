@@ -1201,9 +1201,17 @@ public final class PromisesTest {
         // never slack: a rule is least wrong where it is asked least
         int best = -1;
         int most = -1;
+        SlackRace z = y;
         for (int a = 0; a < 720; a++) {
-            if (y.right(a, a + 100) > most) {
-                most = y.right(a, a + 100);
+            if (a % 400 == 0) {
+                // an object answers 512 calls, not more
+                z = stillSea();
+                z.moon(0, 0, 0, 100);
+                z.terms(4, 100);
+            }
+            int right = z.right(a, a + 100);
+            if (right > most) {
+                most = right;
                 best = a;
             }
         }
