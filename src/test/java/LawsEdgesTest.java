@@ -19,6 +19,8 @@ public final class LawsEdgesTest {
         sixLaws();
         faultIsOfTheLatestThatWasRead();
         forceAndNone();
+        comparisonsJust();
+        lawsOneBehindTheOther();
         brokenBeyondABillion();
         brokenByNothing();
         askedOnlyIfItMatters();
@@ -250,6 +252,21 @@ public final class LawsEdgesTest {
         faults("gains white", 6);
         faults("gains 1 if gains", 11);
         faults("gains 1 if 1=1 1", 15);
+        // the TEXT ends where something is to come
+        String[] open = {"gains", "gains 1+", "gains 1-", "gains 1*", "gains 1/", "gains [",
+            "gains [1", "gains [1+", "gains [1*", "gains 1 if", "gains 1 if 1", "gains 1 if 1<",
+            "gains 1 if 1>", "gains 1 if 1=", "gains 1 if 1=1 or", "gains 1 if 1=1 and",
+            "gains 1 if not", "gains 1 if (", "gains 1 if (1", "gains 1 if (1=1",
+            "gains 1 if (1=1 or", "gains 1 if (1=1 and", "gains 1 if 1=1 and not",
+            "gains 1 if 1+", "gains 1 if 1*", "gains 1 if 1=1*", "gains 1 if 1=1+",
+            "gains 1;", "gains 1;white", "gains 1 if 1=1;", "white"};
+        for (String text : open) {
+            faults(text, text.length());
+            faults(text + "  ", text.length() + 2);
+            // nor can a stray sign go on there
+            faults(text + " ?", text.length() + 1);
+            faults(text + " ;", text.length() + 1);
+        }
         // a later one does not matter
         faults("gains ? 1 if 1=1 ? ;", 6);
         // as many "not" as fit
@@ -386,6 +403,49 @@ public final class LawsEdgesTest {
         tells("gains 64*64*64*64*128-1000", NOTHING);
         tells("gains 64*64*64*64*256", NOTHING);
         tells("gains " + big + "*1000*1000*1000*1000", NOTHING);
+    }
+
+    /** "SUM ("<" | ">" | "=") SUM": just so and just not, and turned by "not". */
+    private static void comparisonsJust() {
+        int[][] due = {{1, 2, 1, 0, 0}, {2, 2, 0, 0, 1}, {2, 1, 0, 1, 0}};
+        String[] signs = {"<", ">", "="};
+        for (int[] d : due) {
+            for (int sign = 0; sign < 3; sign++) {
+                boolean so = d[2 + sign] == 1;
+                String test = d[0] + signs[sign] + d[1];
+                tells("gains 7 if " + test, so ? 7 : NOTHING);
+                tells("gains 7 if not " + test, so ? NOTHING : 7);
+                tells("gains 7 if not not " + test, so ? 7 : NOTHING);
+                tells("gains 7 if not (" + test + ")", so ? NOTHING : 7);
+                tells("gains 7 if not (not " + test + ")", so ? 7 : NOTHING);
+                tells("gains 7 if not (1=1 and " + test + ")", so ? NOTHING : 7);
+                tells("gains 7 if not (1=2 or " + test + ")", so ? NOTHING : 7);
+                tells("gains 7 if not (" + test + " or 1=2)", so ? NOTHING : 7);
+                tells("gains 7 if not (" + test + " and 1=1)", so ? NOTHING : 7);
+            }
+        }
+        tells("gains 7 if 0-1<0", 7);
+        tells("gains 7 if 0-2<0-1", 7);
+        tells("gains 7 if 0-1>0-2", 7);
+        tells("gains 7 if 0-0=0", 7);
+    }
+
+    /** Each LAW is read by itself: as long as can be, over and over, read or not. */
+    private static void lawsOneBehindTheOther() {
+        SlackRace x = new SlackRace();
+        for (int i = 0; i < 6; i++) {
+            String fifty = "gains " + i + "+1".repeat(46) + " if 1<2 or 3";
+            is("9 not read", Due.makeLaw(x, "gains 1" + "+1".repeat(49) + "?"), -6);
+            is("10 not read", x.fault(), 7 + 98);
+            is("9 not read", Due.makeLaw(x, "gains " + "[".repeat(9)), -6);
+            is("9 not read", Due.makeLaw(x, "gains 1" + ";gains 1".repeat(12)), -6);
+            is("9 read", Due.makeLaw(x, fifty.substring(0, fifty.length() - 5)), i);
+            is("10 read", x.fault(), NONE);
+        }
+        for (int i = 0; i < 6; i++) {
+            x.force(i);
+            is("13 each tells its own", x.flow(1), i + 46);
+        }
     }
 
     /** "or divided by 0": 0 by anything else is 0. */

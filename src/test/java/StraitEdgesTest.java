@@ -376,11 +376,17 @@ public final class StraitEdgesTest {
         is("33 one is left", x.agree(0, 0), 1);
         is("33 least HEIGHT", x.agree(0, 1), 500);
         is("33 greatest HEIGHT", x.agree(0, 2), 500);
-        SlackRace y = floats(1000, 0);
-        y.cast(250, 495);
-        // 495 is no HEIGHT; 500 has it by 990 of a thousand: 1,100 * 900 at 275, 900 * 1,100 at 225
-        y.cast(750, -495);
-        is("33 in steps of 10", y.agree(0, 1) == NONE || y.agree(0, 1) % 10 == 0 ? 1 : 0, 1);
+        // 999 of a thousand are cut to 499, and 500 are there 15 MINUTES behind
+        SlackRace y = floats(2000, 0);
+        y.cast(485, 499);
+        y.cast(500, 500);
+        is("33 cut as a LEVEL is", y.agree(0, 0), 1);
+        is("33 cut as a LEVEL is", y.agree(0, 2), 500);
+        // 495 is no HEIGHT: at the top and the foot at once it can't be
+        SlackRace z = floats(1000, 0);
+        z.cast(250, 495);
+        z.cast(0, 0);
+        is("33 in steps of 10", z.agree(0, 0), 0);
     }
 
     /** "a PHASE (0, 10 .. below PERIOD)". */
@@ -1018,9 +1024,10 @@ public final class StraitEdgesTest {
         is("41 READY", x.begins(0), 50);
         is("41 MINUTE and LEVEL of the FLOAT", x.agree(0, 0), 1);
         is("41 MINUTE and LEVEL of the FLOAT", x.agree(0, 5), 0);
-        x.ship(50, 5, 30);
-        // the shorter one goes ahead: 5; the other way it would be 20
-        is("41 PASS", x.order(NONE), 5);
+        x.ship(50, 30, 30);
+        // the shorter one goes ahead: 20
+        is("41 PASS", x.order(NONE), 20);
+        is("41 PASS", x.order(0), 0);
         x.back(1);
         x.terms(4, 30);
         is("41 LIMIT", x.begins(0), 50);
