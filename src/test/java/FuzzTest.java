@@ -23,7 +23,7 @@ public final class FuzzTest {
     }
 
     public static void main(String[] args) {
-        int runs = args.length > 1 ? Integer.parseInt(args[1]) : 400;
+        int runs = args.length > 1 ? Integer.parseInt(args[1]) : 280;
         int first = args.length > 2 ? Integer.parseInt(args[2]) : 0;
         Due due = new Due();
         for (int seed = first; seed < first + runs && due.allRight(); seed++) {

@@ -205,6 +205,7 @@ public final class StraitEdgesTest {
     private static void noShipsOrNoOrder() {
         SlackRace x = steady(0);
         is("28 no SHIPS wait not at all", x.order(NONE), 0);
+        is("28 nor those of a new object", new SlackRace().order(NONE), 0);
         is("28 no SHIPS", x.order(0), NONE);
         is("29 no SHIPS", x.begins(0), NONE);
         x.ship(0, 10, 0);
