@@ -1103,7 +1103,8 @@ public final class SlackRace {
                 return END;
             }
             int sign = tape.bytes[at];
-            return isWithin(sign, 'a', 'z') ? LETTERS : isWithin(sign, '0', '9') ? DIGITS : OTHER;
+            return sign >= 'a' && sign <= 'z' ? LETTERS
+                    : sign >= '0' && sign <= '9' ? DIGITS : OTHER;
         }
     }
 
